@@ -1,0 +1,54 @@
+import java.util.concurrent.Callable;
+
+/** Counts answers that are not as due, and tells of each. */
+final class Check {
+    private int asked = 0;
+    private int wrong = 0;
+    private String title = "";
+
+    void title(String newTitle) {
+        title = newTitle;
+    }
+
+    void is(Object due, Callable<?> call) {
+        tell(due, answerOf(call));
+    }
+
+    void fails(Class<? extends Exception> due, Callable<?> call) {
+        tell(due, answerOf(call));
+    }
+
+    void tell(Object due, Object got) {
+        asked++;
+        if (!due.equals(got)) {
+            wrong++;
+            StackTraceElement at = placeOfCall();
+            System.out.println(title + ", line " + at.getLineNumber() + ": answered " + got + ", due is " + due);
+        }
+    }
+
+    /** What a call answers, or the class of what it throws. */
+    static Object answerOf(Callable<?> call) {
+        try {
+            return call.call();
+        } catch (Exception e) {
+            return e.getClass();
+        }
+    }
+
+    private static StackTraceElement placeOfCall() {
+        StackTraceElement[] all = new Throwable().getStackTrace();
+        int i = 0;
+        while (i < all.length - 1 && all[i].getClassName().equals("Check")) {
+            i++;
+        }
+        return all[i];
+    }
+
+    void end() {
+        System.out.println(asked + " answers looked at, " + wrong + " not as due");
+        if (wrong != 0 || asked == 0) {
+            System.exit(1);
+        }
+    }
+}
