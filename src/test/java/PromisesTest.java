@@ -210,6 +210,8 @@ public final class PromisesTest {
         values(m, m.node(4, both, 0, 0), 0, 0, 0, 0, 0, 0, 0, 0);
         int third = m.node(0, 4, 1, 0);
         values(m, m.node(2, both, third, 0), 0, 10, 7, 22, 1, 11, 8, 23);
+        values(m, m.node(3, first, third, 5), 0, 10, 0, 10, 1, 16, 1, 16);
+        values(m, m.node(3, third, first, 5), 0, 10, 0, 10, 1, 16, 1, 16);
         // The bonus can be had by another part than that with the greatest sum.
         int any = m.node(1, third, m.node(0, 1, 8, 0), 0);
         values(m, m.node(3, any, first, 9), 0, 10, 0, 10, 1, 20, 1, 20);
@@ -408,6 +410,12 @@ public final class PromisesTest {
         check.is(1, () -> n.blocks(1));
         check.is(-1, () -> n.blocks(0));
         check.is(-1, () -> n.blocks(2));
+        // By HALF the seller had 5 + 5, which 10 was not above; 11 is, as (10 + 1) / 2 is still 5.
+        n.bid(0, n.node(0, 3, 11, 0));
+        check.is(5, () -> n.price(1, 2));
+        check.is(1, () -> n.blocks(2));
+        n.bid(0, n.node(0, 3, 1, 0));
+        check.is(1, () -> n.blocks(1));
         n.let(0, false);
         check.is(-1, () -> n.blocks(1));
         n.let(1, false);
@@ -662,6 +670,23 @@ public final class PromisesTest {
         }
     }
 
+    /** 0 and 2 like the second good alone, 1 the first one, and each good would rather have one that likes the other. */
+    private static PivotalMarket trading() {
+        PivotalMarket m = withGoods(0, 0);
+        m.party();
+        m.party();
+        m.party();
+        addsUp(m, 0, 0, 5);
+        addsUp(m, 1, 5, 0);
+        addsUp(m, 2, 0, 5);
+        m.rank(0, 1, 1);
+        m.rank(0, 2, 1);
+        m.rank(1, 0, 3);
+        m.rank(1, 1, 1);
+        m.rank(1, 2, 2);
+        return m;
+    }
+
     private void promise19Rules() {
         check.title("19 matched, rules");
         // All like the first good most, as much as the second: the smaller number; ranks are alike: the smaller number.
@@ -681,19 +706,18 @@ public final class PromisesTest {
         matched(m, 1, 1, -1, -1, 0);
         // The ring of 3 and the first good is not there: it would rather have 3, and 3 has it.
         matched(m, 2, 1, -1, -1, 0);
+        // The last party with the greatest rank, and the least value, is still one to have.
+        PivotalMarket last = withGoods(0, 0, 0, 0);
+        for (int i = 0; i < 5; i++) {
+            last.party();
+        }
+        addsUp(last, 4, 0, 0, 0, 1);
+        last.rank(3, 4, 9);
+        for (int rule = 0; rule <= 2; rule++) {
+            matched(last, rule, -1, -1, -1, -1, 3);
+        }
         // A good points to one that does not like it, so that this one can trade it for what it likes.
-        PivotalMarket r = withGoods(0, 0);
-        r.party();
-        r.party();
-        r.party();
-        addsUp(r, 0, 0, 5);
-        addsUp(r, 1, 5, 0);
-        addsUp(r, 2, 0, 5);
-        r.rank(0, 1, 1);
-        r.rank(0, 2, 1);
-        r.rank(1, 0, 3);
-        r.rank(1, 1, 1);
-        r.rank(1, 2, 2);
+        PivotalMarket r = trading();
         matched(r, 0, -1, 0, 1);
         matched(r, 1, -1, 0, 1);
         matched(r, 2, 1, 0, -1);
@@ -708,23 +732,28 @@ public final class PromisesTest {
         check.fails(ARGUMENT, () -> m.pair(3));
         check.fails(ARGUMENT, () -> m.pair(-1));
         // By rings 0 trades a good that it does not like for that which would rather have 2.
-        PivotalMarket r = withGoods(0, 0);
-        r.party();
-        r.party();
-        r.party();
-        addsUp(r, 0, 0, 5);
-        addsUp(r, 1, 5, 0);
-        addsUp(r, 2, 0, 5);
-        r.rank(0, 1, 1);
-        r.rank(0, 2, 1);
-        r.rank(1, 0, 3);
-        r.rank(1, 1, 1);
-        r.rank(1, 2, 2);
+        PivotalMarket r = trading();
         check.is(-1, () -> r.pair(0));
         check.is(-1, () -> r.pair(1));
         check.is(21, () -> r.pair(2));
         r.rank(1, 2, 3);
         check.is(-1, () -> r.pair(2));
+        // Likewise with the numbers turned round: 2 trades the second good for the first, which would rather have 0.
+        PivotalMarket t = withGoods(0, 0);
+        t.party();
+        t.party();
+        t.party();
+        addsUp(t, 2, 5, 0);
+        addsUp(t, 1, 0, 5);
+        addsUp(t, 0, 5, 0);
+        t.rank(1, 0, 1);
+        t.rank(1, 1, 1);
+        t.rank(0, 2, 3);
+        t.rank(0, 1, 1);
+        t.rank(0, 0, 2);
+        matched(t, 2, -1, 1, 0);
+        check.is(0, () -> t.pair(2));
+        check.is(-1, () -> t.pair(0));
         PivotalMarket none = new PivotalMarket();
         check.is(-1, () -> none.pair(0));
     }
@@ -1122,13 +1151,9 @@ public final class PromisesTest {
     private void promise33() {
         check.title("33 digest");
         PivotalMarket empty = new PivotalMarket();
-        long d = 58148;
         // many 9 times and the worth are 0; blocks and pair are NONE by each rule; five winners are NONE; no seats.
         int[] due = {0, 0, 0, 0, 0, 0, 0, 0, 0, 0, -1, -1, -1, -1, -1, -1, -1, -1, -1, -1, -1, 0, 0, 0, 0, 0, 0, 0, 0};
-        for (int v : due) {
-            d = d * 31 + v;
-        }
-        long ofEmpty = d;
+        long ofEmpty = digestOf(due);
         check.is(ofEmpty, empty::digest);
         check.is(ofEmpty, empty::digest);
         PivotalMarket one = withGoods(2);
@@ -1149,12 +1174,7 @@ public final class PromisesTest {
             0, 0, 0, 0, 0, 0, 7, 7,
             0,
         };
-        d = 58148;
-        for (int v : ofOne) {
-            d = d * 31 + v;
-        }
-        long due1 = d;
-        check.is(due1, one::digest);
+        check.is(digestOf(ofOne), one::digest);
         // One that is out tells no lie: a number less.
         one.let(0, false);
         int[] ofOut = {
@@ -1169,11 +1189,14 @@ public final class PromisesTest {
             0, 0, 0, 0, 0, 0, 7, 7,
             1,
         };
-        d = 58148;
-        for (int v : ofOut) {
+        check.is(digestOf(ofOut), one::digest);
+    }
+
+    private static long digestOf(int... numbers) {
+        long d = 58148;
+        for (int v : numbers) {
             d = d * 31 + v;
         }
-        long dueOut = d;
-        check.is(dueOut, one::digest);
+        return d;
     }
 }

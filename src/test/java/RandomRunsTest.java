@@ -85,6 +85,10 @@ public final class RandomRunsTest {
             same("party()", market::party, plain::party);
             bid();
         }
+        for (int i = 0; i < goods * parties && random.nextBoolean(); i++) {
+            rank();
+            rank();
+        }
     }
 
     private void step() {
@@ -116,7 +120,7 @@ public final class RandomRunsTest {
         int goods = market.many(0);
         int kind = nodes < 2 ? 0 : near(0, 4);
         int a = kind == 0 ? near(1, (1 << goods) - 1) : near(0, nodes - 1);
-        int most = random.nextBoolean() ? 99 : 12;
+        int most = random.nextBoolean() ? 99 : random.nextBoolean() ? 12 : 3;
         int b = kind == 0 ? near(1, most) : kind == 4 ? near(0, 200) : near(0, nodes - 1);
         int c = kind == 3 ? near(0, most) : random.nextInt(40) == 0 ? 1 : 0;
         same("node(" + kind + "," + a + "," + b + "," + c + ")",
@@ -127,6 +131,14 @@ public final class RandomRunsTest {
         int party = anyParty();
         int node = near(-1, market.many(2) - 1);
         same("bid(" + party + "," + node + ")", () -> market.bid(party, node), () -> plain.bid(party, node));
+    }
+
+    private void rank() {
+        int good = anyGood();
+        int party = anyParty();
+        int rank = near(0, random.nextBoolean() ? 9 : 2);
+        same("rank(" + good + "," + party + "," + rank + ")",
+                () -> market.rank(good, party, rank), () -> plain.rank(good, party, rank));
     }
 
     private void change() {
@@ -145,11 +157,8 @@ public final class RandomRunsTest {
                 same("let(" + party + "," + isIn + ")", () -> market.let(party, isIn), () -> plain.let(party, isIn));
             }
             case 8, 9 -> {
-                int good = anyGood();
-                int party = anyParty();
-                int rank = near(0, random.nextBoolean() ? 9 : 2);
-                same("rank(" + good + "," + party + "," + rank + ")",
-                        () -> market.rank(good, party, rank), () -> plain.rank(good, party, rank));
+                rank();
+                rank();
             }
             default -> {
                 int rule = anyRule();
