@@ -14,8 +14,16 @@ final class Check {
         tell(due, answerOf(call));
     }
 
-    void fails(Class<? extends Exception> due, Callable<?> call) {
-        tell(due, answerOf(call));
+    void argument(Callable<?> call) {
+        tell(IllegalArgumentException.class, answerOf(call));
+    }
+
+    void state(Callable<?> call) {
+        tell(IllegalStateException.class, answerOf(call));
+    }
+
+    void index(Callable<?> call) {
+        tell(IndexOutOfBoundsException.class, answerOf(call));
     }
 
     void tell(Object due, Object got) {

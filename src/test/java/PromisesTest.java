@@ -1,8 +1,5 @@
 /** Each promise of the document by examples worked out by hand: ordinary inputs, edges, wrong inputs. */
 public final class PromisesTest {
-    private static final Class<IllegalArgumentException> ARGUMENT = IllegalArgumentException.class;
-    private static final Class<IllegalStateException> STATE = IllegalStateException.class;
-    private static final Class<IndexOutOfBoundsException> INDEX = IndexOutOfBoundsException.class;
     private static final int LOW = Integer.MIN_VALUE;
     private static final int HIGH = Integer.MAX_VALUE;
 
@@ -74,28 +71,6 @@ public final class PromisesTest {
         promise33();
     }
 
-    /** Goods with these reserves. */
-    private static PivotalMarket withGoods(int... reserves) {
-        PivotalMarket m = new PivotalMarket();
-        for (int reserve : reserves) {
-            m.good(reserve);
-        }
-        return m;
-    }
-
-    /** The party wants each of the goods that it has an amount above 0 for, and any of them together for the sum. */
-    private static int addsUp(PivotalMarket m, int party, int... amounts) {
-        int node = -1;
-        for (int good = 0; good < amounts.length; good++) {
-            if (amounts[good] > 0) {
-                int want = m.node(0, 1 << good, amounts[good], 0);
-                node = node < 0 ? want : m.node(2, node, want, 0);
-            }
-        }
-        m.bid(party, node);
-        return node;
-    }
-
     private void promise1() {
         check.title("1 A new object");
         PivotalMarket m = new PivotalMarket();
@@ -105,30 +80,30 @@ public final class PromisesTest {
         }
         check.is(0, () -> m.worth(0));
         check.is(-1, () -> m.blocks(0));
-        check.fails(INDEX, () -> m.won(0));
-        check.fails(INDEX, () -> m.tag(0));
-        check.fails(STATE, () -> m.rise(1));
+        check.index(() -> m.won(0));
+        check.index(() -> m.tag(0));
+        check.state(() -> m.rise(1));
     }
 
     private void promise2() {
         check.title("2 good");
         PivotalMarket m = new PivotalMarket();
-        check.fails(ARGUMENT, () -> m.good(-1));
-        check.fails(ARGUMENT, () -> m.good(51));
-        check.fails(ARGUMENT, () -> m.good(LOW));
-        check.fails(ARGUMENT, () -> m.good(HIGH));
+        check.argument(() -> m.good(-1));
+        check.argument(() -> m.good(51));
+        check.argument(() -> m.good(LOW));
+        check.argument(() -> m.good(HIGH));
         check.is(0, () -> m.good(0));
         check.is(1, () -> m.good(50));
         check.is(50, () -> m.worth(0));
         check.is(2, () -> m.good(3));
         check.is(3, () -> m.good(4));
-        check.fails(STATE, () -> m.good(5));
-        check.fails(ARGUMENT, () -> m.good(51));
+        check.state(() -> m.good(5));
+        check.argument(() -> m.good(51));
         check.is(4, () -> m.many(0));
-        PivotalMarket n = withGoods(1);
+        PivotalMarket n = Markets.withGoods(1);
         n.node(0, 1, 1, 0);
-        check.fails(STATE, () -> n.good(1));
-        check.fails(ARGUMENT, () -> n.good(-1));
+        check.state(() -> n.good(1));
+        check.argument(() -> n.good(-1));
         check.is(1, () -> n.many(0));
     }
 
@@ -138,7 +113,7 @@ public final class PromisesTest {
         for (int i = 0; i < 5; i++) {
             check.is(i, m::party);
         }
-        check.fails(STATE, m::party);
+        check.state(m::party);
         check.is(5, () -> m.many(1));
         check.is(5, () -> m.many(3));
         check.is(-1, () -> m.bid(4, -1));
@@ -147,35 +122,35 @@ public final class PromisesTest {
     private void promise4() {
         check.title("4 node");
         PivotalMarket none = new PivotalMarket();
-        check.fails(ARGUMENT, () -> none.node(0, 1, 1, 0));
-        check.fails(ARGUMENT, () -> none.node(0, 0, 1, 0));
-        PivotalMarket m = withGoods(0, 0);
-        check.fails(ARGUMENT, () -> m.node(0, 4, 1, 0));
-        check.fails(ARGUMENT, () -> m.node(0, -1, 1, 0));
-        check.fails(ARGUMENT, () -> m.node(0, 3, 0, 0));
-        check.fails(ARGUMENT, () -> m.node(0, 3, 100, 0));
-        check.fails(ARGUMENT, () -> m.node(0, 3, 9, 1));
-        check.fails(ARGUMENT, () -> m.node(0, 3, 9, -1));
+        check.argument(() -> none.node(0, 1, 1, 0));
+        check.argument(() -> none.node(0, 0, 1, 0));
+        PivotalMarket m = Markets.withGoods(0, 0);
+        check.argument(() -> m.node(0, 4, 1, 0));
+        check.argument(() -> m.node(0, -1, 1, 0));
+        check.argument(() -> m.node(0, 3, 0, 0));
+        check.argument(() -> m.node(0, 3, 100, 0));
+        check.argument(() -> m.node(0, 3, 9, 1));
+        check.argument(() -> m.node(0, 3, 9, -1));
         for (int kind = 1; kind <= 4; kind++) {
             int k = kind;
-            check.fails(ARGUMENT, () -> m.node(k, 0, 0, 0));
-            check.fails(ARGUMENT, () -> m.node(k, -1, -1, 0));
+            check.argument(() -> m.node(k, 0, 0, 0));
+            check.argument(() -> m.node(k, -1, -1, 0));
         }
         check.is(0, () -> m.many(2));
         check.is(0, () -> m.node(0, 1, 99, 0));
-        check.fails(ARGUMENT, () -> m.node(-1, 0, 0, 0));
-        check.fails(ARGUMENT, () -> m.node(5, 0, 0, 0));
-        check.fails(ARGUMENT, () -> m.node(LOW, 0, 0, 0));
-        check.fails(ARGUMENT, () -> m.node(HIGH, 0, 0, 0));
-        check.fails(ARGUMENT, () -> m.node(1, 0, 1, 0));
-        check.fails(ARGUMENT, () -> m.node(2, 1, 0, 0));
-        check.fails(ARGUMENT, () -> m.node(1, 0, 0, 1));
-        check.fails(ARGUMENT, () -> m.node(2, 0, 0, 1));
-        check.fails(ARGUMENT, () -> m.node(3, 0, 0, -1));
-        check.fails(ARGUMENT, () -> m.node(3, 0, 0, 100));
-        check.fails(ARGUMENT, () -> m.node(4, 0, -1, 0));
-        check.fails(ARGUMENT, () -> m.node(4, 0, 201, 0));
-        check.fails(ARGUMENT, () -> m.node(4, 0, 200, 1));
+        check.argument(() -> m.node(-1, 0, 0, 0));
+        check.argument(() -> m.node(5, 0, 0, 0));
+        check.argument(() -> m.node(LOW, 0, 0, 0));
+        check.argument(() -> m.node(HIGH, 0, 0, 0));
+        check.argument(() -> m.node(1, 0, 1, 0));
+        check.argument(() -> m.node(2, 1, 0, 0));
+        check.argument(() -> m.node(1, 0, 0, 1));
+        check.argument(() -> m.node(2, 0, 0, 1));
+        check.argument(() -> m.node(3, 0, 0, -1));
+        check.argument(() -> m.node(3, 0, 0, 100));
+        check.argument(() -> m.node(4, 0, -1, 0));
+        check.argument(() -> m.node(4, 0, 201, 0));
+        check.argument(() -> m.node(4, 0, 200, 1));
         check.is(1, () -> m.node(4, 0, 200, 0));
         check.is(2, () -> m.node(4, 0, 0, 0));
         check.is(3, () -> m.node(3, 0, 1, 99));
@@ -184,15 +159,15 @@ public final class PromisesTest {
             int due = i;
             check.is(due, () -> m.node(1, due - 1, 0, 0));
         }
-        check.fails(STATE, () -> m.node(0, 1, 1, 0));
-        check.fails(ARGUMENT, () -> m.node(0, 1, 1, 1));
+        check.state(() -> m.node(0, 1, 1, 0));
+        check.argument(() -> m.node(0, 1, 1, 1));
         check.is(30, () -> m.many(2));
     }
 
     /** What the nodes tell, seen by value(). */
     private void promise4Amounts() {
         check.title("4 node, amounts");
-        PivotalMarket m = withGoods(0, 0, 0);
+        PivotalMarket m = Markets.withGoods(0, 0, 0);
         m.party();
         int first = m.node(0, 1, 10, 0);
         int second = m.node(0, 2, 7, 0);
@@ -227,15 +202,15 @@ public final class PromisesTest {
 
     private void promise5() {
         check.title("5 bid");
-        PivotalMarket m = withGoods(0);
+        PivotalMarket m = Markets.withGoods(0);
         m.party();
         m.node(0, 1, 5, 0);
         m.node(0, 1, 6, 0);
-        check.fails(INDEX, () -> m.bid(1, 0));
-        check.fails(INDEX, () -> m.bid(-1, 0));
-        check.fails(INDEX, () -> m.bid(1, 9));
-        check.fails(ARGUMENT, () -> m.bid(0, 2));
-        check.fails(ARGUMENT, () -> m.bid(0, -2));
+        check.index(() -> m.bid(1, 0));
+        check.index(() -> m.bid(-1, 0));
+        check.index(() -> m.bid(1, 9));
+        check.argument(() -> m.bid(0, 2));
+        check.argument(() -> m.bid(0, -2));
         check.is(-1, () -> m.bid(0, 1));
         check.is(6, () -> m.value(0, 1));
         check.is(1, () -> m.bid(0, 0));
@@ -249,11 +224,11 @@ public final class PromisesTest {
     private void promise6() {
         check.title("6 let");
         PivotalMarket m = new PivotalMarket();
-        check.fails(INDEX, () -> m.let(0, true));
+        check.index(() -> m.let(0, true));
         m.party();
         m.party();
-        check.fails(INDEX, () -> m.let(2, true));
-        check.fails(INDEX, () -> m.let(-1, false));
+        check.index(() -> m.let(2, true));
+        check.index(() -> m.let(-1, false));
         check.is(2, () -> m.let(1, true));
         check.is(1, () -> m.let(1, false));
         check.is(1, () -> m.let(1, false));
@@ -266,16 +241,16 @@ public final class PromisesTest {
 
     private void promise7() {
         check.title("7 rank");
-        PivotalMarket m = withGoods(0, 0);
+        PivotalMarket m = Markets.withGoods(0, 0);
         m.party();
         m.party();
         m.party();
-        check.fails(INDEX, () -> m.rank(2, 0, 0));
-        check.fails(INDEX, () -> m.rank(-1, 0, 0));
-        check.fails(INDEX, () -> m.rank(0, 3, 0));
-        check.fails(INDEX, () -> m.rank(0, -1, 99));
-        check.fails(ARGUMENT, () -> m.rank(0, 0, -1));
-        check.fails(ARGUMENT, () -> m.rank(0, 0, 10));
+        check.index(() -> m.rank(2, 0, 0));
+        check.index(() -> m.rank(-1, 0, 0));
+        check.index(() -> m.rank(0, 3, 0));
+        check.index(() -> m.rank(0, -1, 99));
+        check.argument(() -> m.rank(0, 0, -1));
+        check.argument(() -> m.rank(0, 0, 10));
         check.is(0, () -> m.rank(1, 2, 9));
         check.is(9, () -> m.rank(1, 2, 4));
         check.is(4, () -> m.rank(1, 2, 0));
@@ -285,14 +260,14 @@ public final class PromisesTest {
 
     private void promise8() {
         check.title("8 value");
-        PivotalMarket m = withGoods(4, 4);
+        PivotalMarket m = Markets.withGoods(4, 4);
         m.party();
         m.party();
         m.bid(1, m.node(0, 2, 12, 0));
-        check.fails(INDEX, () -> m.value(2, 0));
-        check.fails(INDEX, () -> m.value(-1, 9));
-        check.fails(ARGUMENT, () -> m.value(0, 4));
-        check.fails(ARGUMENT, () -> m.value(0, -1));
+        check.index(() -> m.value(2, 0));
+        check.index(() -> m.value(-1, 9));
+        check.argument(() -> m.value(0, 4));
+        check.argument(() -> m.value(0, -1));
         check.is(0, () -> m.value(0, 3));
         check.is(0, () -> m.value(1, 0));
         check.is(0, () -> m.value(1, 1));
@@ -302,29 +277,17 @@ public final class PromisesTest {
         check.is(12, () -> m.value(1, 3));
     }
 
-    /** Three parties, two goods with reserves 3 and 4: 0 wants both for 20, 1 the first for 9, 2 the second for 8. */
-    private static PivotalMarket three() {
-        PivotalMarket m = withGoods(3, 4);
-        m.party();
-        m.party();
-        m.party();
-        m.bid(0, m.node(0, 3, 20, 0));
-        m.bid(1, m.node(0, 1, 9, 0));
-        m.bid(2, m.node(0, 2, 8, 0));
-        return m;
-    }
-
     private void promise9() {
         check.title("9 worth");
-        PivotalMarket m = three();
+        PivotalMarket m = Markets.three();
         check.is(7, () -> m.worth(0));
         check.is(20, () -> m.worth(1));
         check.is(13, () -> m.worth(2));
         check.is(11, () -> m.worth(4));
         check.is(17, () -> m.worth(6));
         check.is(20, () -> m.worth(7));
-        check.fails(ARGUMENT, () -> m.worth(8));
-        check.fails(ARGUMENT, () -> m.worth(-1));
+        check.argument(() -> m.worth(8));
+        check.argument(() -> m.worth(-1));
         m.let(0, false);
         check.is(20, () -> m.worth(7));
         check.is(20, () -> m.worth(1));
@@ -332,17 +295,17 @@ public final class PromisesTest {
 
     private void promise10() {
         check.title("10 won");
-        PivotalMarket m = three();
+        PivotalMarket m = Markets.three();
         check.is(3, () -> m.won(0));
         check.is(0, () -> m.won(1));
-        check.fails(INDEX, () -> m.won(3));
-        check.fails(INDEX, () -> m.won(-1));
+        check.index(() -> m.won(3));
+        check.index(() -> m.won(-1));
         m.let(0, false);
         check.is(0, () -> m.won(0));
         check.is(1, () -> m.won(1));
         check.is(2, () -> m.won(2));
         // As worthy ways: that with the smallest set for the party with the smallest number.
-        PivotalMarket n = withGoods(0, 0);
+        PivotalMarket n = Markets.withGoods(0, 0);
         n.party();
         n.party();
         int one = n.node(0, 1, 5, 0);
@@ -359,7 +322,7 @@ public final class PromisesTest {
         check.is(0, () -> n.won(0));
         check.is(1, () -> n.won(1));
         // A good without worth to it stays with the seller, and one that is worth just its reserve, too.
-        PivotalMarket r = withGoods(5, 0);
+        PivotalMarket r = Markets.withGoods(5, 0);
         r.party();
         r.bid(0, r.node(0, 1, 5, 0));
         check.is(0, () -> r.won(0));
@@ -369,17 +332,17 @@ public final class PromisesTest {
 
     private void promise11() {
         check.title("11 price");
-        PivotalMarket m = three();
+        PivotalMarket m = Markets.three();
         check.is(20, () -> m.price(0, 0));
         check.is(17, () -> m.price(0, 1));
         check.is(18, () -> m.price(0, 2));
         check.is(0, () -> m.price(1, 0));
         check.is(0, () -> m.price(1, 1));
         check.is(0, () -> m.price(1, 2));
-        check.fails(INDEX, () -> m.price(3, 0));
-        check.fails(INDEX, () -> m.price(-1, 9));
-        check.fails(ARGUMENT, () -> m.price(0, 3));
-        check.fails(ARGUMENT, () -> m.price(0, -1));
+        check.index(() -> m.price(3, 0));
+        check.index(() -> m.price(-1, 9));
+        check.argument(() -> m.price(0, 3));
+        check.argument(() -> m.price(0, -1));
         m.let(0, false);
         check.is(0, () -> m.price(0, 0));
         check.is(0, () -> m.price(0, 1));
@@ -391,14 +354,14 @@ public final class PromisesTest {
 
     private void promise12() {
         check.title("12 blocks");
-        PivotalMarket m = three();
+        PivotalMarket m = Markets.three();
         check.is(-1, () -> m.blocks(0));
         check.is(-1, () -> m.blocks(1));
         check.is(-1, () -> m.blocks(2));
-        check.fails(ARGUMENT, () -> m.blocks(3));
-        check.fails(ARGUMENT, () -> m.blocks(-1));
+        check.argument(() -> m.blocks(3));
+        check.argument(() -> m.blocks(-1));
         // Two that complement one another pay nothing by PIVOT against one that wants both.
-        PivotalMarket n = withGoods(0, 0);
+        PivotalMarket n = Markets.withGoods(0, 0);
         n.party();
         n.party();
         n.party();
@@ -425,7 +388,7 @@ public final class PromisesTest {
 
     private void promise13() {
         check.title("13 gain");
-        PivotalMarket m = three();
+        PivotalMarket m = Markets.three();
         check.is(0, () -> m.gain(0, 0, 4));
         // 15 is less than what the others are worth together.
         check.is(0, () -> m.gain(0, 0, 3));
@@ -438,15 +401,15 @@ public final class PromisesTest {
         // 18 and 8 win: it pays 18 - 8 more than it is worth to it.
         check.is(-9, () -> m.gain(1, 0, 8));
         check.is(-3, () -> m.gain(1, 1, 8));
-        check.fails(INDEX, () -> m.gain(3, 0, 0));
-        check.fails(INDEX, () -> m.gain(-1, 9, 9));
-        check.fails(ARGUMENT, () -> m.gain(0, 3, 0));
-        check.fails(ARGUMENT, () -> m.gain(0, -1, 0));
-        check.fails(ARGUMENT, () -> m.gain(0, 0, 9));
-        check.fails(ARGUMENT, () -> m.gain(0, 0, -1));
+        check.index(() -> m.gain(3, 0, 0));
+        check.index(() -> m.gain(-1, 9, 9));
+        check.argument(() -> m.gain(0, 3, 0));
+        check.argument(() -> m.gain(0, -1, 0));
+        check.argument(() -> m.gain(0, 0, 9));
+        check.argument(() -> m.gain(0, 0, -1));
         m.let(0, false);
-        check.fails(INDEX, () -> m.gain(0, 0, 0));
-        check.fails(INDEX, () -> m.gain(0, 9, 0));
+        check.index(() -> m.gain(0, 0, 0));
+        check.index(() -> m.gain(0, 9, 0));
         // 9 * 2 / 4 is 4, rounded down, and still above the reserve of 3.
         check.is(5, () -> m.gain(1, 0, 2));
         check.is(0, () -> m.gain(1, 0, 1));
@@ -454,7 +417,7 @@ public final class PromisesTest {
 
     private void promise14() {
         check.title("14 lie");
-        PivotalMarket m = three();
+        PivotalMarket m = Markets.three();
         check.is(-1, () -> m.lie(0, 0));
         check.is(-1, () -> m.lie(0, 1));
         check.is(-1, () -> m.lie(1, 0));
@@ -463,14 +426,14 @@ public final class PromisesTest {
         check.is(-1, () -> m.lie(1, 1));
         check.is(2, () -> m.lie(1, 2));
         check.is(3, () -> m.lie(2, 0));
-        check.fails(INDEX, () -> m.lie(0, 0));
-        check.fails(INDEX, () -> m.lie(0, 7));
-        check.fails(INDEX, () -> m.lie(3, 0));
-        check.fails(INDEX, () -> m.lie(-1, 0));
-        check.fails(ARGUMENT, () -> m.lie(1, 3));
-        check.fails(ARGUMENT, () -> m.lie(1, -1));
+        check.index(() -> m.lie(0, 0));
+        check.index(() -> m.lie(0, 7));
+        check.index(() -> m.lie(3, 0));
+        check.index(() -> m.lie(-1, 0));
+        check.argument(() -> m.lie(1, 3));
+        check.argument(() -> m.lie(1, -1));
         // Of lies that gain the same the one with the fewest quarters: 1 * 1 / 4 and 2 * 1 / 4 and 3 * 1 / 4 are 0.
-        PivotalMarket n = withGoods(0, 0);
+        PivotalMarket n = Markets.withGoods(0, 0);
         n.party();
         n.bid(0, n.node(1, n.node(0, 1, 99, 0), n.node(0, 2, 1, 0), 0));
         check.is(1, () -> n.lie(0, 0));
@@ -480,10 +443,10 @@ public final class PromisesTest {
 
     private void promise15() {
         check.title("15 open");
-        PivotalMarket m = three();
-        check.fails(ARGUMENT, () -> m.open(0));
-        check.fails(ARGUMENT, () -> m.open(21));
-        check.fails(STATE, () -> m.rise(1));
+        PivotalMarket m = Markets.three();
+        check.argument(() -> m.open(0));
+        check.argument(() -> m.open(21));
+        check.state(() -> m.rise(1));
         check.is(3, () -> m.open(20));
         m.let(1, false);
         check.is(2, () -> m.open(1));
@@ -497,16 +460,16 @@ public final class PromisesTest {
         check.is(0, () -> m.demand(0));
         // One that is refused changes nothing.
         m.rise(1);
-        check.fails(ARGUMENT, () -> m.open(21));
+        check.argument(() -> m.open(21));
         check.is(1, () -> m.many(5));
     }
 
     private void promise16() {
         check.title("16 rise");
-        PivotalMarket m = three();
-        check.fails(ARGUMENT, () -> m.rise(0));
-        check.fails(ARGUMENT, () -> m.rise(41));
-        check.fails(STATE, () -> m.rise(1));
+        PivotalMarket m = Markets.three();
+        check.argument(() -> m.rise(0));
+        check.argument(() -> m.rise(41));
+        check.state(() -> m.rise(1));
         m.open(2);
         // 2 demands the second good till that costs 8, 1 the first till that costs 9.
         check.is(2, () -> m.rise(2));
@@ -521,8 +484,8 @@ public final class PromisesTest {
         check.is(3, () -> m.demand(0));
         check.is(0, () -> m.demand(1));
         check.is(0, () -> m.demand(2));
-        check.fails(STATE, () -> m.rise(1));
-        check.fails(ARGUMENT, () -> m.rise(41));
+        check.state(() -> m.rise(1));
+        check.argument(() -> m.rise(41));
         m.open(2);
         check.is(4, () -> m.rise(4));
         check.is(1, () -> m.many(6));
@@ -531,7 +494,7 @@ public final class PromisesTest {
     /** A party that demanded few goods never demands more again; one that is out keeps its limit. */
     private void promise16Limits() {
         check.title("16 rise, limits");
-        PivotalMarket m = withGoods(0, 0);
+        PivotalMarket m = Markets.withGoods(0, 0);
         for (int i = 0; i < 4; i++) {
             m.party();
         }
@@ -569,7 +532,7 @@ public final class PromisesTest {
 
     private void promise16Ends() {
         check.title("16 rise, ends");
-        PivotalMarket m = withGoods(0);
+        PivotalMarket m = Markets.withGoods(0);
         m.party();
         m.party();
         m.bid(0, m.node(0, 1, 99, 0));
@@ -581,7 +544,7 @@ public final class PromisesTest {
         check.is(40, () -> m.many(5));
         check.is(1, () -> m.many(6));
         check.is(40, () -> m.tag(0));
-        check.fails(STATE, () -> m.rise(1));
+        check.state(() -> m.rise(1));
         // With a price of as much as the value the smaller set, nothing, is demanded.
         m.open(11);
         check.is(10, () -> m.rise(40));
@@ -596,23 +559,23 @@ public final class PromisesTest {
 
     private void promise17() {
         check.title("17 tag");
-        PivotalMarket m = withGoods(7);
+        PivotalMarket m = Markets.withGoods(7);
         check.is(-1, () -> m.tag(0));
-        check.fails(INDEX, () -> m.tag(1));
-        check.fails(INDEX, () -> m.tag(-1));
+        check.index(() -> m.tag(1));
+        check.index(() -> m.tag(-1));
         m.open(3);
         check.is(7, () -> m.tag(0));
-        check.fails(INDEX, () -> m.tag(1));
+        check.index(() -> m.tag(1));
         m.good(9);
         check.is(9, () -> m.tag(1));
     }
 
     private void promise18() {
         check.title("18 demand");
-        PivotalMarket m = three();
+        PivotalMarket m = Markets.three();
         check.is(0, () -> m.demand(0));
-        check.fails(INDEX, () -> m.demand(3));
-        check.fails(INDEX, () -> m.demand(-1));
+        check.index(() -> m.demand(3));
+        check.index(() -> m.demand(-1));
         m.open(1);
         check.is(0, () -> m.demand(0));
         m.rise(1);
@@ -631,11 +594,11 @@ public final class PromisesTest {
 
     /** Two goods that 0 and 1 like both; 0 likes the first one most, 1 the second one; ranks the other way round. */
     private static PivotalMarket crossed() {
-        PivotalMarket m = withGoods(0, 0);
+        PivotalMarket m = Markets.withGoods(0, 0);
         m.party();
         m.party();
-        addsUp(m, 0, 9, 5);
-        addsUp(m, 1, 4, 8);
+        Markets.addsUp(m, 0, 9, 5);
+        Markets.addsUp(m, 1, 4, 8);
         m.rank(0, 0, 2);
         m.rank(0, 1, 1);
         m.rank(1, 0, 1);
@@ -649,10 +612,10 @@ public final class PromisesTest {
         matched(m, 0, 0, 1);
         matched(m, 1, 1, 0);
         matched(m, 2, 0, 1);
-        check.fails(INDEX, () -> m.matched(2, 0));
-        check.fails(INDEX, () -> m.matched(-1, 9));
-        check.fails(ARGUMENT, () -> m.matched(0, 3));
-        check.fails(ARGUMENT, () -> m.matched(0, -1));
+        check.index(() -> m.matched(2, 0));
+        check.index(() -> m.matched(-1, 9));
+        check.argument(() -> m.matched(0, 3));
+        check.argument(() -> m.matched(0, -1));
         m.let(0, false);
         for (int rule = 0; rule <= 2; rule++) {
             matched(m, rule, -1, 1);
@@ -672,13 +635,13 @@ public final class PromisesTest {
 
     /** 0 and 2 like the second good alone, 1 the first one, and each good would rather have one that likes the other. */
     private static PivotalMarket trading() {
-        PivotalMarket m = withGoods(0, 0);
+        PivotalMarket m = Markets.withGoods(0, 0);
         m.party();
         m.party();
         m.party();
-        addsUp(m, 0, 0, 5);
-        addsUp(m, 1, 5, 0);
-        addsUp(m, 2, 0, 5);
+        Markets.addsUp(m, 0, 0, 5);
+        Markets.addsUp(m, 1, 5, 0);
+        Markets.addsUp(m, 2, 0, 5);
         m.rank(0, 1, 1);
         m.rank(0, 2, 1);
         m.rank(1, 0, 3);
@@ -690,10 +653,10 @@ public final class PromisesTest {
     private void promise19Rules() {
         check.title("19 matched, rules");
         // All like the first good most, as much as the second: the smaller number; ranks are alike: the smaller number.
-        PivotalMarket m = withGoods(0, 0, 0);
+        PivotalMarket m = Markets.withGoods(0, 0, 0);
         for (int i = 0; i < 4; i++) {
             m.party();
-            addsUp(m, i, 6, 6, 0);
+            Markets.addsUp(m, i, 6, 6, 0);
         }
         for (int rule = 0; rule <= 2; rule++) {
             matched(m, rule, 0, 1, -1, -1);
@@ -707,11 +670,11 @@ public final class PromisesTest {
         // The ring of 3 and the first good is not there: it would rather have 3, and 3 has it.
         matched(m, 2, 1, -1, -1, 0);
         // The last party with the greatest rank, and the least value, is still one to have.
-        PivotalMarket last = withGoods(0, 0, 0, 0);
+        PivotalMarket last = Markets.withGoods(0, 0, 0, 0);
         for (int i = 0; i < 5; i++) {
             last.party();
         }
-        addsUp(last, 4, 0, 0, 0, 1);
+        Markets.addsUp(last, 4, 0, 0, 0, 1);
         last.rank(3, 4, 9);
         for (int rule = 0; rule <= 2; rule++) {
             matched(last, rule, -1, -1, -1, -1, 3);
@@ -729,8 +692,8 @@ public final class PromisesTest {
         check.is(-1, () -> m.pair(0));
         check.is(-1, () -> m.pair(1));
         check.is(-1, () -> m.pair(2));
-        check.fails(ARGUMENT, () -> m.pair(3));
-        check.fails(ARGUMENT, () -> m.pair(-1));
+        check.argument(() -> m.pair(3));
+        check.argument(() -> m.pair(-1));
         // By rings 0 trades a good that it does not like for that which would rather have 2.
         PivotalMarket r = trading();
         check.is(-1, () -> r.pair(0));
@@ -739,13 +702,13 @@ public final class PromisesTest {
         r.rank(1, 2, 3);
         check.is(-1, () -> r.pair(2));
         // Likewise with the numbers turned round: 2 trades the second good for the first, which would rather have 0.
-        PivotalMarket t = withGoods(0, 0);
+        PivotalMarket t = Markets.withGoods(0, 0);
         t.party();
         t.party();
         t.party();
-        addsUp(t, 2, 5, 0);
-        addsUp(t, 1, 0, 5);
-        addsUp(t, 0, 5, 0);
+        Markets.addsUp(t, 2, 5, 0);
+        Markets.addsUp(t, 1, 0, 5);
+        Markets.addsUp(t, 0, 5, 0);
         t.rank(1, 0, 1);
         t.rank(1, 1, 1);
         t.rank(0, 2, 3);
@@ -760,7 +723,7 @@ public final class PromisesTest {
 
     private void promise21() {
         check.title("21 share");
-        PivotalMarket m = withGoods(0);
+        PivotalMarket m = Markets.withGoods(0);
         m.party();
         m.party();
         m.party();
@@ -786,14 +749,14 @@ public final class PromisesTest {
         shares(m, 0, 300, 0, 20, 11, 0);
         shares(m, 0, 31, 0, 20, 11, 0);
         shares(m, 1, 3, 0, 2, 1, 0);
-        check.fails(INDEX, () -> m.share(4, 0, 0));
-        check.fails(INDEX, () -> m.share(-1, 9, 999));
-        check.fails(ARGUMENT, () -> m.share(0, 3, 0));
-        check.fails(ARGUMENT, () -> m.share(0, -1, 0));
-        check.fails(ARGUMENT, () -> m.share(0, 0, 301));
-        check.fails(ARGUMENT, () -> m.share(0, 0, -1));
+        check.index(() -> m.share(4, 0, 0));
+        check.index(() -> m.share(-1, 9, 999));
+        check.argument(() -> m.share(0, 3, 0));
+        check.argument(() -> m.share(0, -1, 0));
+        check.argument(() -> m.share(0, 0, 301));
+        check.argument(() -> m.share(0, 0, -1));
         // As great rests: the smaller number.
-        PivotalMarket n = withGoods(0);
+        PivotalMarket n = Markets.withGoods(0);
         n.party();
         n.party();
         n.bid(0, n.node(0, 1, 7, 0));
@@ -813,13 +776,13 @@ public final class PromisesTest {
 
     private void promise22() {
         check.title("22 picks");
-        PivotalMarket m = withGoods(9, 9, 9, 9);
-        check.fails(INDEX, () -> m.picks(0));
+        PivotalMarket m = Markets.withGoods(9, 9, 9, 9);
+        check.index(() -> m.picks(0));
         m.party();
         m.party();
         m.party();
-        addsUp(m, 0, 1, 3, 3, 2);
-        addsUp(m, 2, 5, 9, 0, 0);
+        Markets.addsUp(m, 0, 1, 3, 3, 2);
+        Markets.addsUp(m, 2, 5, 9, 0, 0);
         // 0 takes the second, 1 (without a bid) the first, 2 the third for nothing, 0 the fourth.
         check.is(2 + 8, () -> m.picks(0));
         check.is(1, () -> m.picks(1));
@@ -833,17 +796,17 @@ public final class PromisesTest {
         check.is(15, () -> m.picks(0));
         m.let(0, false);
         check.is(0, () -> m.picks(0));
-        check.fails(INDEX, () -> m.picks(3));
-        check.fails(INDEX, () -> m.picks(-1));
+        check.index(() -> m.picks(3));
+        check.index(() -> m.picks(-1));
     }
 
     private void promise23() {
         check.title("23 envies");
-        PivotalMarket m = withGoods(0, 0, 0, 0);
+        PivotalMarket m = Markets.withGoods(0, 0, 0, 0);
         m.party();
         m.party();
         m.party();
-        int all = addsUp(m, 0, 9, 8, 7, 6);
+        int all = Markets.addsUp(m, 0, 9, 8, 7, 6);
         m.bid(1, all);
         m.let(2, false);
         // 0 has the first and the third, 1 the second and the fourth.
@@ -864,10 +827,10 @@ public final class PromisesTest {
         check.is(false, () -> m.envies(2, 0));
         check.is(false, () -> m.envies(2, 1));
         // The first or the second one: nothing is left of the picks of 0 without the first.
-        addsUp(m, 2, 1, 1);
+        Markets.addsUp(m, 2, 1, 1);
         check.is(false, () -> m.envies(2, 0));
         // The first or the last one, where 0 has all.
-        addsUp(m, 2, 1, 0, 0, 1);
+        Markets.addsUp(m, 2, 1, 0, 0, 1);
         m.let(1, false);
         check.is(15, () -> m.picks(0));
         check.is(true, () -> m.envies(2, 0));
@@ -884,27 +847,27 @@ public final class PromisesTest {
         check.is(8, () -> m.picks(2));
         check.is(true, () -> m.envies(3, 0));
         check.is(false, () -> m.envies(3, 1));
-        check.fails(INDEX, () -> m.envies(0, 4));
-        check.fails(INDEX, () -> m.envies(4, 0));
-        check.fails(INDEX, () -> m.envies(-1, 0));
-        check.fails(INDEX, () -> m.envies(0, -1));
+        check.index(() -> m.envies(0, 4));
+        check.index(() -> m.envies(4, 0));
+        check.index(() -> m.envies(-1, 0));
+        check.index(() -> m.envies(0, -1));
     }
 
     private void promise24() {
         check.title("24 ballot");
         PivotalMarket m = new PivotalMarket();
-        check.fails(ARGUMENT, () -> m.ballot(-1, 0, 1));
-        check.fails(ARGUMENT, () -> m.ballot(4, 0, 1));
-        check.fails(ARGUMENT, () -> m.ballot(0, 4, 1));
-        check.fails(ARGUMENT, () -> m.ballot(0, -2, 1));
-        check.fails(ARGUMENT, () -> m.ballot(0, -2, -1));
-        check.fails(ARGUMENT, () -> m.ballot(0, 1, 4));
-        check.fails(ARGUMENT, () -> m.ballot(0, 1, -2));
-        check.fails(ARGUMENT, () -> m.ballot(0, 0, -1));
-        check.fails(ARGUMENT, () -> m.ballot(0, 1, 0));
-        check.fails(ARGUMENT, () -> m.ballot(0, 1, 1));
-        check.fails(ARGUMENT, () -> m.ballot(0, -1, 1));
-        check.fails(ARGUMENT, () -> m.ballot(-1, -1, -1));
+        check.argument(() -> m.ballot(-1, 0, 1));
+        check.argument(() -> m.ballot(4, 0, 1));
+        check.argument(() -> m.ballot(0, 4, 1));
+        check.argument(() -> m.ballot(0, -2, 1));
+        check.argument(() -> m.ballot(0, -2, -1));
+        check.argument(() -> m.ballot(0, 1, 4));
+        check.argument(() -> m.ballot(0, 1, -2));
+        check.argument(() -> m.ballot(0, 0, -1));
+        check.argument(() -> m.ballot(0, 1, 0));
+        check.argument(() -> m.ballot(0, 1, 1));
+        check.argument(() -> m.ballot(0, -1, 1));
+        check.argument(() -> m.ballot(-1, -1, -1));
         check.is(0, () -> m.many(7));
         check.is(0, () -> m.ballot(0, -1, -1));
         check.is(1, () -> m.ballot(3, 0, -1));
@@ -913,15 +876,15 @@ public final class PromisesTest {
             int due = i;
             check.is(due, () -> m.ballot(1, 2, 3));
         }
-        check.fails(STATE, () -> m.ballot(1, 2, 3));
-        check.fails(ARGUMENT, () -> m.ballot(1, 1, 3));
+        check.state(() -> m.ballot(1, 2, 3));
+        check.argument(() -> m.ballot(1, 1, 3));
         check.is(8, () -> m.many(7));
     }
 
     private void promise25() {
         check.title("25 take");
         PivotalMarket m = new PivotalMarket();
-        check.fails(STATE, m::take);
+        check.state(m::take);
         m.ballot(2, 3, 0);
         m.ballot(3, 0, -1);
         m.ballot(1, -1, -1);
@@ -932,20 +895,8 @@ public final class PromisesTest {
         check.is(1, () -> m.ballot(0, 1, 2));
         check.is(0, m::take);
         check.is(2, m::take);
-        check.fails(STATE, m::take);
+        check.state(m::take);
         check.is(-1, () -> m.winner(0));
-    }
-
-    private static PivotalMarket withBallots(int[]... ballots) {
-        PivotalMarket m = new PivotalMarket();
-        for (int[] b : ballots) {
-            m.ballot(b[0], b.length > 1 ? b[1] : -1, b.length > 2 ? b[2] : -1);
-        }
-        return m;
-    }
-
-    private static int[] of(int... candidates) {
-        return candidates;
     }
 
     private void winners(PivotalMarket m, int... due) {
@@ -958,41 +909,41 @@ public final class PromisesTest {
     private void promise26() {
         check.title("26 winner");
         winners(new PivotalMarket(), -1, -1, -1, -1, -1);
-        check.fails(ARGUMENT, () -> new PivotalMarket().winner(5));
-        check.fails(ARGUMENT, () -> new PivotalMarket().winner(-1));
+        check.argument(() -> new PivotalMarket().winner(5));
+        check.argument(() -> new PivotalMarket().winner(-1));
         // Firsts 3 2 2 0; points 9 6 8 7; without 3, then 2 (of 2 and 1 the greater), then 1 is ahead by 4 to 3;
         // 3 beats 1 and 2; firsts and seconds 3 2 3 6.
-        PivotalMarket m = withBallots(of(0, 3), of(0, 3), of(0, 3), of(1, 3), of(1, 3), of(2, 3, 1), of(2, 1));
+        PivotalMarket m = Markets.withBallots("03", "03", "03", "13", "13", "231", "21");
         check.is(0, () -> m.winner(0));
         check.is(3, () -> m.winner(1));
         check.is(1, () -> m.winner(2));
         check.is(3, () -> m.winner(3));
         check.is(3, () -> m.winner(4));
         // All alike: the smaller number wins.
-        winners(withBallots(of(0), of(1), of(2), of(3)), 0, 0, 0, 0, 0);
+        winners(Markets.withBallots("0", "1", "2", "3"), 0, 0, 0, 0, 0);
         // By RUNS the greater number goes of those on as few.
-        check.is(1, () -> withBallots(of(2, 1), of(1)).winner(2));
-        check.is(3, () -> withBallots(of(3)).winner(2));
+        check.is(1, () -> Markets.withBallots("21", "1").winner(2));
+        check.is(3, () -> Markets.withBallots("3").winner(2));
         // A ballot with none that is left counts for nobody: 3 and 1 go, and then 0 and 2 have 1 each.
-        check.is(0, () -> withBallots(of(3), of(0), of(2)).winner(2));
+        check.is(0, () -> Markets.withBallots("3", "0", "2").winner(2));
         // 3, 2 and 1 points for the places.
-        check.is(1, () -> withBallots(of(0, 1, 2), of(1, 2, 0), of(3, 1)).winner(1));
-        check.is(2, () -> withBallots(of(0, 2, 1), of(3, 1, 2), of(3, 2, 1), of(0, 2)).winner(4));
+        check.is(1, () -> Markets.withBallots("012", "120", "31").winner(1));
+        check.is(2, () -> Markets.withBallots("021", "312", "321", "02").winner(4));
         // One that is on a ballot is ahead of those that are not: 2 beats all, though never first alone.
-        check.is(2, () -> withBallots(of(0, 2), of(1, 2), of(2), of(3)).winner(3));
+        check.is(2, () -> Markets.withBallots("02", "12", "2", "3").winner(3));
         // 0 beats 1, 1 beats 2, 2 beats 0, all beat 3: the smaller number of three.
-        check.is(0, () -> withBallots(of(0, 1, 2), of(1, 2, 0), of(2, 0, 1)).winner(3));
+        check.is(0, () -> Markets.withBallots("012", "120", "201").winner(3));
     }
 
     private void promise27() {
         check.title("27 tips");
         PivotalMarket none = new PivotalMarket();
-        check.fails(INDEX, () -> none.tips(0, 0));
-        PivotalMarket m = withBallots(of(0), of(0), of(1), of(1), of(2, 1, 0));
-        check.fails(INDEX, () -> m.tips(5, 0));
-        check.fails(INDEX, () -> m.tips(-1, 9));
-        check.fails(ARGUMENT, () -> m.tips(0, 5));
-        check.fails(ARGUMENT, () -> m.tips(0, -1));
+        check.index(() -> none.tips(0, 0));
+        PivotalMarket m = Markets.withBallots("0", "0", "1", "1", "210");
+        check.index(() -> m.tips(5, 0));
+        check.index(() -> m.tips(-1, 9));
+        check.argument(() -> m.tips(0, 5));
+        check.argument(() -> m.tips(0, -1));
         check.is(0, () -> m.winner(0));
         // With 1 as its first one, which is ahead of 0 on it.
         check.is(1, () -> m.tips(4, 0));
@@ -1000,12 +951,12 @@ public final class PromisesTest {
         // 1 has nobody ahead of 1 whom it could help: 1 is only as good as 0 by one ballot more.
         check.is(-1, () -> m.tips(2, 0));
         // Only candidates ahead of the winner on the true ballot count, not those that are not on it.
-        PivotalMarket n = withBallots(of(0), of(1), of(2));
+        PivotalMarket n = Markets.withBallots("0", "1", "2");
         check.is(0, () -> n.winner(0));
         check.is(-1, () -> n.tips(1, 0));
         check.is(-1, () -> n.tips(0, 0));
         // Of several the one that is most ahead: 3 (by 3 alone) before 1.
-        PivotalMarket p = withBallots(of(0, 1), of(3, 0), of(1, 2), of(2, 3, 1));
+        PivotalMarket p = Markets.withBallots("01", "30", "12", "231");
         check.is(0, () -> p.winner(0));
         check.is(3, () -> p.tips(3, 0));
         // The ballots are as before.
@@ -1017,13 +968,13 @@ public final class PromisesTest {
         check.title("28 seats");
         PivotalMarket none = new PivotalMarket();
         check.is(0, () -> none.seats(0, 0, 30));
-        check.fails(ARGUMENT, () -> none.seats(-1, 0, 1));
-        check.fails(ARGUMENT, () -> none.seats(4, 0, 1));
-        check.fails(ARGUMENT, () -> none.seats(0, -1, 1));
-        check.fails(ARGUMENT, () -> none.seats(0, 2, 1));
-        check.fails(ARGUMENT, () -> none.seats(0, 0, 0));
-        check.fails(ARGUMENT, () -> none.seats(0, 0, 31));
-        PivotalMarket m = withBallots(of(0, 3), of(0), of(0), of(0), of(1), of(1, 3), of(3), of(0));
+        check.argument(() -> none.seats(-1, 0, 1));
+        check.argument(() -> none.seats(4, 0, 1));
+        check.argument(() -> none.seats(0, -1, 1));
+        check.argument(() -> none.seats(0, 2, 1));
+        check.argument(() -> none.seats(0, 0, 0));
+        check.argument(() -> none.seats(0, 0, 31));
+        PivotalMarket m = Markets.withBallots("03", "0", "0", "0", "1", "13", "3", "0");
         // Firsts 5, 2, 0, 1. By 0 in order 0, 0, 1 (2 against 5/3), 0, 0 (5/4), 1 (of 1, 1, 1), 0, 3.
         seats(m, 0, 1, 1, 0, 0, 0);
         seats(m, 0, 3, 2, 1, 0, 0);
@@ -1037,7 +988,7 @@ public final class PromisesTest {
         seats(m, 1, 5, 3, 1, 0, 1);
         seats(m, 1, 7, 4, 2, 0, 1);
         seats(m, 1, 8, 5, 2, 0, 1);
-        seats(withBallots(of(2)), 1, 30, 0, 0, 30, 0);
+        seats(Markets.withBallots("2"), 1, 30, 0, 0, 30, 0);
     }
 
     private void seats(PivotalMarket m, int rule, int all, int... due) {
@@ -1049,28 +1000,28 @@ public final class PromisesTest {
 
     private void promise29() {
         check.title("29 seal");
-        PivotalMarket m = three();
-        check.fails(ARGUMENT, () -> m.seal(3));
-        check.fails(ARGUMENT, () -> m.seal(-1));
+        PivotalMarket m = Markets.three();
+        check.argument(() -> m.seal(3));
+        check.argument(() -> m.seal(-1));
         check.is(0, () -> m.many(8));
         for (int k = 0; k < 8; k++) {
             int due = k;
             check.is(due, () -> m.seal(due % 3));
         }
-        check.fails(STATE, () -> m.seal(0));
-        check.fails(ARGUMENT, () -> m.seal(3));
+        check.state(() -> m.seal(0));
+        check.argument(() -> m.seal(3));
         check.is(8, () -> m.many(8));
     }
 
     private void promise30() {
         check.title("30 appeal");
-        PivotalMarket m = three();
-        check.fails(INDEX, () -> m.appeal(0));
+        PivotalMarket m = Markets.three();
+        check.index(() -> m.appeal(0));
         m.seal(0);
         m.seal(1);
         m.seal(2);
-        check.fails(INDEX, () -> m.appeal(3));
-        check.fails(INDEX, () -> m.appeal(-1));
+        check.index(() -> m.appeal(3));
+        check.index(() -> m.appeal(-1));
         check.is(0, () -> m.appeal(0));
         // 1 tells 10 in place of 9: only the PIVOT price of 0 is another one, and by that its HALF.
         m.bid(1, m.node(0, 1, 10, 0));
@@ -1092,7 +1043,7 @@ public final class PromisesTest {
         m.bid(0, m.node(0, 3, 19, 0));
         check.is(1, () -> m.appeal(0));
         // One that pays the same, and wins something else.
-        PivotalMarket n = withGoods(0, 0);
+        PivotalMarket n = Markets.withGoods(0, 0);
         n.party();
         n.bid(0, n.node(0, 1, 5, 0));
         n.seal(0);
@@ -1102,9 +1053,9 @@ public final class PromisesTest {
 
     private void promise31() {
         check.title("31 many");
-        PivotalMarket m = three();
-        check.fails(ARGUMENT, () -> m.many(9));
-        check.fails(ARGUMENT, () -> m.many(-1));
+        PivotalMarket m = Markets.three();
+        check.argument(() -> m.many(9));
+        check.argument(() -> m.many(-1));
         m.party();
         m.let(3, false);
         m.seal(0);
@@ -1133,9 +1084,9 @@ public final class PromisesTest {
 
     private void promise32() {
         check.title("32 meanPrice");
-        PivotalMarket m = three();
-        check.fails(ARGUMENT, () -> m.meanPrice(3));
-        check.fails(ARGUMENT, () -> m.meanPrice(-1));
+        PivotalMarket m = Markets.three();
+        check.argument(() -> m.meanPrice(3));
+        check.argument(() -> m.meanPrice(-1));
         check.is(20.0 / 3, () -> m.meanPrice(0));
         check.is(17.0 / 3, () -> m.meanPrice(1));
         check.is(6.0, () -> m.meanPrice(2));
@@ -1156,7 +1107,7 @@ public final class PromisesTest {
         long ofEmpty = digestOf(due);
         check.is(ofEmpty, empty::digest);
         check.is(ofEmpty, empty::digest);
-        PivotalMarket one = withGoods(2);
+        PivotalMarket one = Markets.withGoods(2);
         one.party();
         one.bid(0, one.node(0, 1, 8, 0));
         one.ballot(3, -1, -1);
