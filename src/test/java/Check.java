@@ -30,8 +30,7 @@ final class Check {
         asked++;
         if (!due.equals(got)) {
             wrong++;
-            StackTraceElement at = placeOfCall();
-            System.out.println(title + ", line " + at.getLineNumber() + ": answered " + got + ", due is " + due);
+            System.out.println(title + ", line " + linesOfCall() + ": answered " + got + ", due is " + due);
         }
     }
 
@@ -44,13 +43,15 @@ final class Check {
         }
     }
 
-    private static StackTraceElement placeOfCall() {
-        StackTraceElement[] all = new Throwable().getStackTrace();
-        int i = 0;
-        while (i < all.length - 1 && all[i].getClassName().equals("Check")) {
-            i++;
+    /** The line of the test, and those that lead to it. */
+    private static String linesOfCall() {
+        StringBuilder lines = new StringBuilder();
+        for (StackTraceElement at : new Throwable().getStackTrace()) {
+            if (!at.getClassName().equals("Check") && !at.getMethodName().equals("main")) {
+                lines.append(lines.length() == 0 ? "" : " < ").append(at.getLineNumber());
+            }
         }
-        return all[i];
+        return lines.toString();
     }
 
     void end() {

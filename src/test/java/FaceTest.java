@@ -55,6 +55,7 @@ public final class FaceTest {
         check.tell(new TreeSet<>(Arrays.asList(FACE)), visibleMethods());
         check.tell("[public PivotalMarket()]", Arrays.toString(PivotalMarket.class.getDeclaredConstructors()));
         check.tell(List.of(), visibleFields());
+        check.tell(List.of(), hiddenMethodsWithNamesOfFace());
         List<Class<?>> classes = new ArrayList<>(Arrays.asList(PivotalMarket.class.getDeclaredClasses()));
         check.tell(true, classes.size() < MOST_CLASSES);
         for (Class<?> inner : classes) {
@@ -102,16 +103,33 @@ public final class FaceTest {
         return all;
     }
 
-    private static List<String> namesOfFaceIn(Class<?> inner) {
+    private static List<String> hiddenMethodsWithNamesOfFace() {
         List<String> all = new ArrayList<>();
-        for (Method m : inner.getDeclaredMethods()) {
-            for (String line : FACE) {
-                if (line.contains(" " + m.getName() + "(")) {
-                    all.add(m.getName());
-                }
+        for (Method m : PivotalMarket.class.getDeclaredMethods()) {
+            if (Modifier.isPrivate(m.getModifiers()) && isNameOfFace(m.getName())) {
+                all.add(m.getName());
             }
         }
         return all;
+    }
+
+    private static List<String> namesOfFaceIn(Class<?> inner) {
+        List<String> all = new ArrayList<>();
+        for (Method m : inner.getDeclaredMethods()) {
+            if (isNameOfFace(m.getName())) {
+                all.add(m.getName());
+            }
+        }
+        return all;
+    }
+
+    private static boolean isNameOfFace(String name) {
+        for (String line : FACE) {
+            if (line.contains(" " + name + "(")) {
+                return true;
+            }
+        }
+        return false;
     }
 
     private static int fieldsOf(Class<?> each) {

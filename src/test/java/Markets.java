@@ -78,7 +78,7 @@ final class Markets {
         }
         wants(m, 4, 15, 99);
         for (int node = 5; node < 30; node++) {
-            m.node(4, node - 5, 7 * node, 0);
+            m.node(4, node - 5, 6 * node, 0);
         }
         for (int good = 0; good < 4; good++) {
             for (int party = 0; party < 5; party++) {
