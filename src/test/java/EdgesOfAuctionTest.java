@@ -319,6 +319,7 @@ public final class EdgesOfAuctionTest {
         quartersAre0To8();
         truthGainsNothing();
         toldIsRoundedDown();
+        lieWhereOthersAreOut();
         lieOfAPartyThatIsIn();
         lieByARuleThatThereIs();
         gainIsAbove0();
@@ -390,6 +391,29 @@ public final class EdgesOfAuctionTest {
         check.is(4, () -> m.gain(0, BID, 3));
         check.is(8, () -> m.gain(0, BID, 2));
         check.is(-3, () -> m.gain(0, BID, 5));
+    }
+
+    private void lieWhereOthersAreOut() {
+        check.title("13: who wins, and the PRICES, are by that, among those that are IN");
+        PivotalMarket m = Markets.withParties(3, 0);
+        Markets.wants(m, 0, 1, 9);
+        Markets.wants(m, 1, 1, 8);
+        Markets.wants(m, 2, 1, 7);
+        // It tells 10, and pays 9 for what is 8 to it.
+        check.is(-1, () -> m.gain(1, PIVOT, 5));
+        check.is(0, () -> m.gain(1, PIVOT, 4));
+        m.let(0, false);
+        check.is(0, () -> m.gain(1, PIVOT, 5));
+        // It tells 6 in place of 8, and loses what it had for 7.
+        check.is(-1, () -> m.gain(1, PIVOT, 3));
+        m.let(2, false);
+        check.is(0, () -> m.gain(1, PIVOT, 2));
+        check.is(2, () -> m.gain(1, HALF, 2));
+        m.let(0, true);
+        m.let(2, true);
+        check.is(-1, () -> m.gain(1, PIVOT, 5));
+        check.is(0, () -> m.gain(2, PIVOT, 5));
+        check.is(-2, () -> m.gain(2, PIVOT, 6));
     }
 
     private void lieOfAPartyThatIsIn() {

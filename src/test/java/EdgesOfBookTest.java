@@ -412,6 +412,11 @@ public final class EdgesOfBookTest {
         // A party has 3, 3 times 4, and as many as there are parties.
         digestIsOf(Markets.withParties(5), 29 + 5 * 20);
         digestIsOf(Markets.withBallots("0", "12", "321"), 29 + 15);
+        // Seven seats are 7 and 0 by the rule 0, and 6 and 1 by 1.
+        PivotalMarket seats = Markets.withBallots("1", "1", "1", "1", "1", "1", "1", "3");
+        check.is(7, () -> seats.seats(1, 0, 7));
+        check.is(6, () -> seats.seats(1, 1, 7));
+        digestIsOf(seats, 29 + 40);
     }
 
     private void digestOfAll() {

@@ -135,6 +135,13 @@ public final class EdgesOfSharingTest {
         for (int rule = 0; rule <= 2; rule++) {
             matched(m, rule, -1, -1, 3, -1, -1);
         }
+        // The greatest rank, the last party and the last good: still one to have.
+        PivotalMarket last = Markets.withParties(5, 0, 0, 0, 0);
+        Markets.wants(last, 4, 8, 1);
+        last.rank(3, 4, 9);
+        for (int rule = 0; rule <= 2; rule++) {
+            matched(last, rule, -1, -1, -1, -1, 3);
+        }
         // The ranks of another good are of no matter.
         m.rank(2, 1, 0);
         m.rank(3, 4, 0);
@@ -229,6 +236,13 @@ public final class EdgesOfSharingTest {
         m.rank(0, 1, 9);
         m.rank(0, 2, 8);
         matched(m, RINGS, -1, -1, 0);
+        // Likewise the last one.
+        PivotalMarket n = Markets.withParties(5, 0);
+        Markets.wants(n, 3, 1, 5);
+        for (int party = 0; party < 4; party++) {
+            n.rank(0, party, 9);
+        }
+        matched(n, RINGS, -1, -1, -1, 0, -1);
     }
 
     private void whetherThatLikesItOrNot() {
@@ -343,6 +357,19 @@ public final class EdgesOfSharingTest {
         check.is(20, () -> m.pair(RINGS));
         m.rank(0, 2, 4);
         check.is(21, () -> m.pair(RINGS));
+        // The first party of all, and the first good.
+        PivotalMarket first = Markets.withParties(3, 0, 0);
+        Markets.wants(first, 0, 1, 5);
+        first.bid(2, 0);
+        Markets.wants(first, 1, 2, 5);
+        int[] ofNear = {2, 1, 3};
+        int[] ofFar = {9, 1, 0};
+        for (int party = 0; party < 3; party++) {
+            first.rank(0, party, ofNear[party]);
+            first.rank(1, party, ofFar[party]);
+        }
+        matched(first, RINGS, -1, 1, 0);
+        check.is(0, () -> first.pair(RINGS));
     }
 
     private void pairOfAPartyThatIsIn() {
@@ -413,6 +440,8 @@ public final class EdgesOfSharingTest {
             check.argument(() -> m.share(0, r, -1));
             shared(m, rule, 0, 0, 0, 0, 0, 0);
             shared(m, rule, 1, 1, 0, 0, 0, 0);
+            shared(m, rule, 5, 1, 1, 1, 1, 1);
+            shared(m, rule, 6, 2, 1, 1, 1, 1);
             shared(m, rule, 299, 60, 60, 60, 60, 59);
             shared(m, rule, 300, 60, 60, 60, 60, 60);
             check.argument(() -> m.share(0, r, 301));
@@ -479,6 +508,10 @@ public final class EdgesOfSharingTest {
         shared(two, PART, 2, 1, 1);
         // 6/7, 15/7, 0 and 0 of 3: the rests are 6 and 1.
         shared(claims(2, 5, 0, 0), PART, 3, 1, 2, 0, 0);
+        // 49 and a half, and a half: the rests are alike.
+        shared(claims(99, 1), PART, 50, 50, 0);
+        shared(claims(1, 99), PART, 50, 1, 49);
+        shared(claims(99, 1), PART, 51, 50, 1);
         // Without a rest nothing is left.
         shared(claims(2, 4), PART, 3, 1, 2);
     }
@@ -564,6 +597,13 @@ public final class EdgesOfSharingTest {
         picked(m, 0, 0, 0);
         m.let(2, true);
         picked(m, 0, 0, 15);
+        // The last one has what others leave, as long as they are OUT.
+        PivotalMarket five = Markets.withParties(5, 0, 0, 0, 0);
+        picked(five, 1, 2, 4, 8, 0);
+        five.let(3, false);
+        picked(five, 1, 2, 4, 0, 8);
+        five.let(3, true);
+        picked(five, 1, 2, 4, 8, 0);
     }
 
     private void pickedBySmallerNumber() {

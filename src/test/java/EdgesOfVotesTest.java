@@ -369,6 +369,7 @@ public final class EdgesOfVotesTest {
         // Another one on it would WIN, or 0 would.
         tip(3, 2, TWO, "01", "23", "30");
         tip(3, 0, TWO, "312");
+        tip(0, 2, TWO, "12", "3", "03");
         tip(2, 1, POINTS, "301", "201");
         tip(2, 2, PAIRS, "1", "302", "210");
     }
